@@ -373,7 +373,7 @@ public final class ReadBackwards {
         }
 
         int wordAt(int place) {
-            return has(place) ? words[place] : NONE;
+            return place >= 0 && place < size && place < words.length ? words[place] : NONE;
         }
 
         void put(int place, int word) {
@@ -439,8 +439,8 @@ public final class ReadBackwards {
 
         void hear(int word) {
             switch (word) {
-                case YES: sway(1); break;
-                case NO: sway(-1); break;
+                case YES: value += turned ? -1 : 1; turned = false; break;
+                case NO: value += turned ? 1 : -1; turned = false; break;
                 case NOT: turned = !turned; break;
                 case UNLESS: value = -value; break;
                 case DEAR: value++; break;
@@ -451,15 +451,10 @@ public final class ReadBackwards {
             shut = shutsBehind(word);
         }
 
-        private void sway(int by) {
-            value += turned ? -by : by;
-            turned = false;
-        }
-
         private boolean shutsBehind(int word) {
             if (kind == DEAF || kind == NOBODY) return false;
             if (value < -1) return true;
-            if (word == DEAR && isSuch(kind, WIDOW)) return true;
+            if (word == DEAR && (kind == WIDOW || kind == BRIDE)) return true;
             if (pauses >= 2 && kind == HASTY) return true;
             return value > 1 && kind == BRIDE;
         }
@@ -549,8 +544,6 @@ public final class ReadBackwards {
             end = endValue;
             top = topValue;
             draft.clear();
-            // So much SNOW shortens no draft.
-            draft.snow = MOST_SNOW;
             for (int size = 1; size <= LONGEST_WRITTEN; size++) {
                 draft.add(YES);
                 if (fromTop[0] != null) fromTop[0].begin(kind);
@@ -586,7 +579,8 @@ public final class ReadBackwards {
             if (last < 0 || last >= fromTop.length) return false;
             Reading whole = fromTop[last];
             if (whole == null || whole.value != top) return false;
-            fromEnd.readTo(kind, draft, false);
+            fromEnd.begin(kind);
+            fromEnd.hearSome(draft, draft.size, kind == DEAF);
             return !fromEnd.shut && fromEnd.value == end;
         }
     }
