@@ -74,6 +74,8 @@ public final class ReadBackwards {
         page.clear();
         audience.size = 0;
         told.clear();
+        // Changes are counted of THE LETTER's own WORDS, and none of the new ones was changed yet.
+        changed = 0;
         // An IMAGE of the LETTER that is gone can't be gone on from.
         kept.holds = false;
         taken++;

@@ -7,6 +7,7 @@ public final class AllTest {
         restore();
         restoreRefuses();
         count();
+        changesAreOfTheLetter();
         digest();
         due.end();
     }
@@ -93,6 +94,25 @@ public final class AllTest {
         due.is("count(3) with snow 1", x.count(3), 0);
         int[] outside = {-1, 9, Due.LOWEST, Due.HIGHEST};
         for (int what : outside) due.refused(x, "count(" + what + ")", () -> x.count(what), Due.OUTSIDE);
+    }
+
+    private static void changesAreOfTheLetter() {
+        ReadBackwards x = Due.taken("y;1");
+        x.change(0, 0);
+        x.change(0, 1);
+        x.image();
+        Due.page(x, "y;1").take();
+        due.is("count(4) of a second letter", x.count(4), 0);
+        due.refused(x, "restore() of the first one's changes", x::restore, Due.STATE);
+        due.is("count(4) behind the refused restore()", x.count(4), 0);
+        ReadBackwards unchanged = Due.page(Due.taken("y;1"), "y;1");
+        unchanged.take();
+        due.is("digest() of a second letter", x.digest(), unchanged.digest());
+        x.change(0, 2);
+        x.image();
+        x.change(0, 3);
+        x.restore();
+        due.is("count(4) of the second, restored", x.count(4), 1);
     }
 
     private static void digest() {

@@ -90,6 +90,7 @@ public final class LetterTest {
         Due.page(x, "yn");
         due.refused(x, "take() of yn", x::take, Due.STATE);
         due.is("listeners stay with a refused take()", x.count(2), 2);
+        due.is("changes stay with a refused take()", x.count(4), 1);
         x.blank();
         Due.page(x, "du;2");
         due.is("second take()", x.take(), 2);
@@ -99,7 +100,7 @@ public final class LetterTest {
         due.is("listeners of the second", x.count(2), 0);
         due.is("told of the second", x.count(5), 0);
         due.is("which() of the second", x.which(), 31);
-        due.is("changes, which no promise lets go", x.count(4), 1);
+        due.is("changes of the second", x.count(4), 0);
         due.is("how often taken", x.count(7), 2);
         due.is("listener() of the second", x.listener(Due.HASTY), 0);
     }

@@ -128,6 +128,7 @@ final class Model {
         kinds.clear();
         told.clear();
         image = null;
+        changed = 0;
         taken++;
         return text.length();
     }
